@@ -64,7 +64,11 @@ public final class SetBook {
 
     public int tree() {
         tape.begin();
-        int answer = readTrees();
+        boolean right = treeReader.read(tape, spareTrees);
+        int answer = right ? spareTrees.membersInAll() : tape.wrong();
+        if (right) {
+            takeSpareTrees();
+        }
         tape.cut(0);
         return answer;
     }
@@ -78,7 +82,14 @@ public final class SetBook {
 
     public int set() {
         tape.begin();
-        int answer = readTheSet();
+        Row found = setReader.read(tape, trees, kept);
+        int answer = FULL;
+        if (found == null) {
+            answer = tape.wrong();
+        } else if (!setReader.tooMany()) {
+            theSet.copyFrom(found);
+            answer = theSet.size;
+        }
         tape.cut(0);
         return answer;
     }
@@ -197,10 +208,7 @@ public final class SetBook {
         return sets;
     }
 
-    private int readTrees() {
-        if (!treeReader.read(tape, spareTrees)) {
-            return tape.wrong();
-        }
+    private void takeSpareTrees() {
         Trees old = trees;
         trees = spareTrees;
         spareTrees = old;
@@ -208,7 +216,6 @@ public final class SetBook {
         for (int k = 0; k < KEPT_PLACES; k++) {
             kept[k].clear();
         }
-        return trees.membersInAll();
     }
 
     private int readNumberOfMember() {
@@ -240,18 +247,6 @@ public final class SetBook {
             return NOTHING;
         }
         return value;
-    }
-
-    private int readTheSet() {
-        Row found = setReader.read(tape, trees, kept);
-        if (found == null) {
-            return tape.wrong();
-        }
-        if (setReader.tooMany()) {
-            return FULL;
-        }
-        theSet.copyFrom(found);
-        return theSet.size;
     }
 
     private int readPlace() {
@@ -395,8 +390,10 @@ public final class SetBook {
 
         static int lengthOf(long key) {
             int letters = 0;
-            for (long rest = key; rest != 0; rest >>>= 8) {
-                letters++;
+            for (int shift = 0; shift < 64; shift += 8) {
+                if (key >>> shift != 0) {
+                    letters++;
+                }
             }
             return letters;
         }
@@ -502,8 +499,7 @@ public final class SetBook {
                 fail(at);
                 return NOTHING;
             }
-            boolean zeroAhead = peek() == '0';
-            int most = zeroAhead ? 1 : LONGEST_NUMBER;
+            int most = peek() == '0' ? 1 : LONGEST_NUMBER;
             int value = 0;
             for (int digits = 0; digits < most && isDigit(peek()); digits++) {
                 value = value * 10 + peek() - '0';
@@ -539,7 +535,7 @@ public final class SetBook {
         }
 
         private static boolean isLetterOrDigit(int b) {
-            return isLetter(b) || isDigit(b);
+            return b >= 'a' && b <= 'z' || b >= '0' && b <= '9';
         }
     }
 
@@ -1519,28 +1515,30 @@ public final class SetBook {
         }
 
         private boolean readThings(Function function) {
-            for (int i = 0; i < function.things.length(); i++) {
-                if (!text.skip(',') || !readThing(function.things.charAt(i))) {
+            boolean right = true;
+            for (int i = 0; right && i < function.things.length(); i++) {
+                if (!text.skip(',')) {
                     return false;
                 }
+                switch (function.things.charAt(i)) {
+                    case 'N':
+                        howMany = text.readNumber();
+                        right = howMany != NOTHING;
+                        break;
+                    case 'M':
+                        markAt = trees.readMark(text);
+                        right = markAt >= 0;
+                        break;
+                    case 'I':
+                        bound = text.readInt();
+                        right = bound != NOTHING;
+                        break;
+                    default:
+                        right = readAct();
+                        break;
+                }
             }
-            return true;
-        }
-
-        private boolean readThing(char kind) {
-            switch (kind) {
-                case 'N':
-                    howMany = text.readNumber();
-                    return howMany != NOTHING;
-                case 'M':
-                    markAt = trees.readMark(text);
-                    return markAt >= 0;
-                case 'I':
-                    bound = text.readInt();
-                    return bound != NOTHING;
-                default:
-                    return readAct();
-            }
+            return right;
         }
 
         private boolean readAct() {

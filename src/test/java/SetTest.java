@@ -147,6 +147,7 @@ public final class SetTest {
         p.makes("under(r.all,m,999999999)", "a d e b c");
         p.makes("under(r.all,m,-999999999)", "");
         p.makes("under(r.kids*p.kids,m,0)", "a.y b.y c.y");
+        p.makes("over(r.kids*p.kids,m,8)", "a.x c.x");
     }
 
     private static void sorted() {
@@ -164,6 +165,9 @@ public final class SetTest {
         p.makes("low(r.all,2,m)", "e b");
         p.makes("low(r.all,999999999,m)", "e b c a d");
         p.makes("fall(r.kids*p.kids,m)", "a.x c.x b.x a.y c.y b.y");
+        p.makes("rise(r.kids*p.kids,m)", "b.y c.y a.y b.x c.x a.x");
+        p.makes("top(r.kids*p.kids,2,m)", "a.x c.x");
+        p.makes("low(r.all*p.all,2,m)", "e.y b.y");
         p.mark("b m 1000000", 7);
         p.mark("c m -1000000", 7);
         p.makes("rise(r.kids,m)", "c a b");

@@ -53,6 +53,11 @@ public final class TreeTest {
         p.tree("dim t\nmar m\n", 1);
         member(p, 0, 0, -1, 0, 0, 1);
         member(p, 1, 0, -1, -1, -1, -1);
+        p.tree("dim t\nmem a t\nmem b a\nmem c b\nmar m\n", 4);
+        member(p, 0, 0, -1, 1, 0, 1);
+        member(p, 0, 1, 0, 1, 1, 1);
+        member(p, 0, 3, 2, 0, 3, 1);
+        p.makes("t.ends", "c");
     }
 
     private static void widest() {
@@ -78,6 +83,7 @@ public final class TreeTest {
         p.tree(six + "mar m\n", 7);
         member(p, 0, 6, 5, 0, 6, 1);
         member(p, 0, 0, -1, 1, 0, 1);
+        p.makes("f.path", "f e d c b a r");
         p.tree(six + "mem g f\nmar m\n", Probe.wrongAt(six.length() + 6));
         p.tree(six + "mem g f", Probe.wrongAt(six.length() + 6));
         p.tree(six + "mem g e\nmar m\n", 8);
