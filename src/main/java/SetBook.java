@@ -251,8 +251,8 @@ public final class SetBook {
 
     private int readPlace() {
         int wanted = 0;
-        // A TUPLE has a NAME at least, also if THE SET has no DIMENSION that it could be of.
-        for (int n = 0; n == 0 || n < theSet.width; n++) {
+        // Without DIMENSIONS no NAME is read: the empty text is a TUPLE then, and any byte is too many.
+        for (int n = 0; n < theSet.width; n++) {
             if (n > 0 && !tape.skip('.')) {
                 return tape.wrong();
             }
@@ -261,7 +261,7 @@ public final class SetBook {
             if (id < 0) {
                 return tape.wrong();
             }
-            if (n >= theSet.width || Trees.dimensionOf(id) != theSet.order[n]) {
+            if (Trees.dimensionOf(id) != theSet.order[n]) {
                 tape.fail(start);
                 return tape.wrong();
             }

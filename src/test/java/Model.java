@@ -567,17 +567,17 @@ final class Model {
     int place() {
         return text(() -> {
             List<Node> tuple = new ArrayList<>();
-            do {
+            for (int dimension : setDimensions) {
                 if (!tuple.isEmpty()) {
                     expect('.');
                 }
                 int from = at;
                 Node node = memberName();
-                if (setDimensions.isEmpty() || setDimensions.get(tuple.size()) != node.dimension) {
+                if (dimension != node.dimension) {
                     throw new Wrong(from);
                 }
                 tuple.add(node);
-            } while (tuple.size() < setDimensions.size());
+            }
             expectEnd();
             return setTuples.indexOf(tuple);
         });

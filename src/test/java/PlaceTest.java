@@ -14,6 +14,7 @@ public final class PlaceTest {
         ofOne(p);
         ofTwo(p);
         ofNoTuples(p);
+        withoutDimensionsAgain(p);
         Probe.finish();
     }
 
@@ -21,8 +22,11 @@ public final class PlaceTest {
         p.place("t", Probe.wrongAt(0));
         p.place("t.p", Probe.wrongAt(0));
         p.place("q", Probe.wrongAt(0));
-        p.place("", Probe.wrongAt(0));
+        p.place("abcdefghi", Probe.wrongAt(0));
         p.place(".", Probe.wrongAt(0));
+        p.place("\n", Probe.wrongAt(0));
+        p.place("", SetBook.NONE);
+        p.counts(4, 0);
     }
 
     private static void ofOne(Probe p) {
@@ -61,5 +65,14 @@ public final class PlaceTest {
         p.place("t.p", SetBook.NONE);
         p.place("t", Probe.wrongAt(1));
         p.place("p", Probe.wrongAt(0));
+    }
+
+    /** A new tree takes the DIMENSIONS from THE SET; a text that is WRONG does not. */
+    private static void withoutDimensionsAgain(Probe p) {
+        p.set("t.all", 5);
+        p.set("t.all+", Probe.wrongAt(6));
+        p.place("", Probe.wrongAt(0));
+        p.tree(Probe.SMALL, 8);
+        withoutDimensions(p);
     }
 }
