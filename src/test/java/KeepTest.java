@@ -9,11 +9,11 @@ public final class KeepTest {
     }
 
     private static void keep(Probe p, int k, int want) {
-        Probe.due("keep(" + k + ")", p.book.keep(k), want);
+        Probe.due("keep(" + k + ")", p.book().keep(k), want);
     }
 
     private static void drop(Probe p, int k, int want) {
-        Probe.due("drop(" + k + ")", p.book.drop(k), want);
+        Probe.due("drop(" + k + ")", p.book().drop(k), want);
     }
 
     private static void keeps() {
@@ -77,7 +77,7 @@ public final class KeepTest {
     }
 
     private static void tuple(Probe p, int i, int dimension, int want) {
-        Probe.due("tuple(" + i + ", " + dimension + ")", p.book.tuple(i, dimension), want);
+        Probe.due("tuple(" + i + ", " + dimension + ")", p.book().tuple(i, dimension), want);
     }
 
     private static void tuples() {

@@ -19,7 +19,7 @@ public final class MarkTest {
     }
 
     private static void number(Probe p, int d, int k, int mark, int want) {
-        Probe.due("number(" + d + ", " + k + ", " + mark + ")", p.book.number(d, k, mark), want);
+        Probe.due("number(" + d + ", " + k + ", " + mark + ")", p.book().number(d, k, mark), want);
     }
 
     private static void marks() {
@@ -45,16 +45,11 @@ public final class MarkTest {
     }
 
     private static void wrongs() {
-        Probe p = Probe.marked();
-        for (int i = 0; i + 1 < MARK_WRONGS.length; i += 2) {
-            p.mark(MARK_WRONGS[i], Probe.wrongAt(Integer.parseInt(MARK_WRONGS[i + 1])));
-        }
-        number(p, 0, 1, 0, 5);
-        p.mark("a m 6", 5);
+        Probe.wrongs(Probe::marked, Probe.Text.MARK, MARK_WRONGS);
     }
 
     private static void shows(Probe p, int i, int k, int want) {
-        Probe.due("shows(" + i + ", " + k + ")", p.book.shows(i, k), want);
+        Probe.due("shows(" + i + ", " + k + ")", p.book().shows(i, k), want);
     }
 
     private static void sums() {

@@ -4,8 +4,12 @@ import java.util.Random;
 
 /** All promises: drawn runs of calls, each answer held against the model's. The seeds are fixed. */
 public final class ModelTest {
-    private static final int RUNS = 2500;
-    private static final int STEPS = 40;
+    private static final int RUNS = 10000;
+    private static final int CALLS_PROMISED = 512;
+    /** What a step may need: a tree's text at its longest, and a look. */
+    private static final int DEAREST_STEP = 220;
+    private static final int LOOKS = 4;
+    private static final int BYTES_LOOKED_AT = 20;
     private static final String[] NAMES = {"a", "b", "c", "d", "e", "f", "g", "h", "i", "j", "k", "l", "n", "o", "q",
         "s", "u", "v", "w", "x", "y", "z", "head", "tail", "full", "over", "under", "rise", "fall", "top", "low",
         "tree", "turn", "each", "kids", "all", "up", "deep", "longname", "a1", "b2", "c3d4e5f6", "z9"};
@@ -16,6 +20,7 @@ public final class ModelTest {
     /** A big run has large trees and mostly all of them, so that SETS come near what they may have. */
     private final boolean big;
     private final SetBook book = new SetBook();
+    private int calls = 0;
     private final Model model = new Model();
     private final List<List<String>> members = new ArrayList<>();
     private final List<String> marks = new ArrayList<>();
@@ -33,11 +38,19 @@ public final class ModelTest {
         for (int seed = first; seed < first + runs; seed++) {
             ModelTest run = new ModelTest(seed);
             run.step(seed, 0);
-            for (int step = 1; step < STEPS; step++) {
+            while (run.calls + DEAREST_STEP <= CALLS_PROMISED) {
                 run.step(seed, run.draw.nextInt(100));
             }
         }
         Probe.finish();
+    }
+
+    private SetBook book() {
+        calls++;
+        if (calls > CALLS_PROMISED) {
+            throw new IllegalStateException("a run makes more calls than are promised");
+        }
+        return book;
     }
 
     private void step(int seed, int kind) {
@@ -45,60 +58,90 @@ public final class ModelTest {
         if (kind < 8) {
             String text = spoil(treeText(), 4);
             lay(run, text);
-            Probe.due(run + "tree of " + Probe.shown(text), book.tree(), model.tree());
+            Probe.due(run + "tree of " + Probe.shown(text), book().tree(), model.tree());
             learn();
         } else if (kind < 28) {
             String text = spoil(markText(), 6);
             lay(run, text);
-            Probe.due(run + "mark of " + Probe.shown(text), book.mark(), model.mark());
+            Probe.due(run + "mark of " + Probe.shown(text), book().mark(), model.mark());
         } else if (kind < 68) {
             String text = spoil(setText(), 4);
             lay(run, text);
-            Probe.due(run + "set of " + Probe.shown(text), book.set(), model.set());
+            Probe.due(run + "set of " + Probe.shown(text), book().set(), model.set());
         } else if (kind < 76) {
             String text = spoil(tupleText(), 6);
             lay(run, text);
-            Probe.due(run + "place of " + Probe.shown(text), book.place(), model.place());
+            Probe.due(run + "place of " + Probe.shown(text), book().place(), model.place());
         } else if (kind < 86) {
             int k = draw.nextInt(8) - 1;
-            Probe.due(run + "keep " + k, book.keep(k), model.keep(k));
+            Probe.due(run + "keep " + k, book().keep(k), model.keep(k));
         } else if (kind < 88) {
             int k = draw.nextInt(8) - 1;
-            Probe.due(run + "drop " + k, book.drop(k), model.drop(k));
+            Probe.due(run + "drop " + k, book().drop(k), model.drop(k));
+        } else if (kind < 91) {
+            oddCalls(run);
         } else {
-            Probe.due(run + "print", book.print(), model.print());
-            for (int i = -1; i <= model.count(6); i++) {
-                Probe.due(run + "printed " + i, book.printed(i), model.printed(i));
+            Probe.due(run + "print", book().print(), model.print());
+            for (int n = 0; n < BYTES_LOOKED_AT; n++) {
+                int i = drawnPlace(model.count(6));
+                Probe.due(run + "printed " + i, book().printed(i), model.printed(i));
             }
         }
         look(run);
     }
 
+    /** Bytes of any kind, an end of any kind, and numbers from all over the range; the tape is left as it is. */
+    private void oddCalls(String run) {
+        int[] five = {draw.nextInt(), 0x742E616C, oddInt(), 0x612B6220, draw.nextInt()};
+        Probe.due(run + "feed", book().feed(five[0], five[1], five[2], five[3], five[4]), model.feed(five));
+        int n = draw.nextInt(3) == 0 ? oddInt() : draw.nextInt(30) - 2;
+        Probe.due(run + "end " + n, book().end(n), model.end(n));
+        int a = oddInt();
+        int b = oddInt();
+        int c = oddInt();
+        Probe.due(run + "tuple " + a + " " + b, book().tuple(a, b), model.tuple(a, b));
+        Probe.due(run + "shows " + a + " " + b, book().shows(a, b), model.shows(a, b));
+        Probe.due(run + "member " + a + " " + b + " " + c, book().member(a, b, c), model.member(a, b, c));
+        Probe.due(run + "number " + a + " " + b + " " + c, book().number(a, b, c), model.number(a, b, c));
+        Probe.due(run + "printed " + a, book().printed(a), model.printed(a));
+        Probe.due(run + "count " + a, book().count(a), model.count(a));
+        Probe.due(run + "keep " + a, book().keep(a), model.keep(a));
+        Probe.due(run + "drop " + b, book().drop(b), model.drop(b));
+    }
+
+    private int oddInt() {
+        return draw.nextInt(3) == 0 ? draw.nextInt(4) : draw.nextInt() >> draw.nextInt(32);
+    }
+
     private void look(String run) {
         for (int what = -1; what < 8; what++) {
-            Probe.due(run + "count " + what, book.count(what), model.count(what));
+            Probe.due(run + "count " + what, book().count(what), model.count(what));
         }
-        for (int i = -1; i <= model.count(3); i++) {
-            for (int d = -1; d < 5; d++) {
-                Probe.due(run + "tuple " + i + " " + d, book.tuple(i, d), model.tuple(i, d));
-                Probe.due(run + "shows " + i + " " + d, book.shows(i, d), model.shows(i, d));
-            }
+        for (int n = 0; n < LOOKS; n++) {
+            int i = drawnPlace(model.count(3));
+            int d = draw.nextInt(6) - 1;
+            Probe.due(run + "tuple " + i + " " + d, book().tuple(i, d), model.tuple(i, d));
+            Probe.due(run + "shows " + i + " " + d, book().shows(i, d), model.shows(i, d));
+            int k = draw.nextInt(33) - 1;
+            int what = draw.nextInt(6) - 1;
+            Probe.due(run + "member", book().member(d, k, what), model.member(d, k, what));
+            Probe.due(run + "number", book().number(d, k, what), model.number(d, k, what));
         }
-        int d = draw.nextInt(6) - 1;
-        int k = draw.nextInt(33) - 1;
-        for (int n = -1; n < 5; n++) {
-            Probe.due(run + "member", book.member(d, k, n), model.member(d, k, n));
-            Probe.due(run + "number", book.number(d, k, n), model.number(d, k, n));
-        }
+    }
+
+    /** A place among so many, or right beside them. */
+    private int drawnPlace(int many) {
+        return draw.nextInt(many + 2) - 1;
     }
 
     private void lay(String run, String text) {
         for (int i = 0; i < text.length(); i += 20) {
             int[] five = Probe.five(text, i);
-            int got = book.feed(five[0], five[1], five[2], five[3], five[4]);
+            int got = book().feed(five[0], five[1], five[2], five[3], five[4]);
             Probe.due(run + "feed", got, model.feed(five));
         }
-        Probe.due(run + "end", book.end(text.length()), model.end(text.length()));
+        // Behind bytes that odd calls left, this cuts the text as well.
+        Probe.due(run + "end", book().end(text.length()), model.end(text.length()));
     }
 
     /** In one of so many cases, a text with a byte or more changed, put in or left out. */

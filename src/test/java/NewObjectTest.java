@@ -13,18 +13,18 @@ public final class NewObjectTest {
         for (int what = 0; what < want.length; what++) {
             p.counts(what, want[what]);
         }
-        Probe.due("keep(0)", p.book.keep(0), SetBook.NONE);
-        Probe.due("drop(0)", p.book.drop(0), SetBook.NONE);
-        Probe.due("tuple(0, 0)", p.book.tuple(0, 0), SetBook.NONE);
-        Probe.due("shows(0, 0)", p.book.shows(0, 0), SetBook.NOTHING);
-        Probe.due("number(0, 0, 0)", p.book.number(0, 0, 0), SetBook.NOTHING);
-        Probe.due("member(0, 0, 0)", p.book.member(0, 0, 0), SetBook.NONE);
-        Probe.due("member(0, 0, 1)", p.book.member(0, 0, 1), 0);
-        Probe.due("member(0, 0, 2)", p.book.member(0, 0, 2), 0);
-        Probe.due("member(0, 0, 3)", p.book.member(0, 0, 3), 1);
-        Probe.due("printed(0)", p.book.printed(0), SetBook.NONE);
-        Probe.due("print()", p.book.print(), 0);
-        Probe.due("end(1)", p.book.end(1), SetBook.NONE);
+        Probe.due("keep(0)", p.book().keep(0), SetBook.NONE);
+        Probe.due("drop(0)", p.book().drop(0), SetBook.NONE);
+        Probe.due("tuple(0, 0)", p.book().tuple(0, 0), SetBook.NONE);
+        Probe.due("shows(0, 0)", p.book().shows(0, 0), SetBook.NOTHING);
+        Probe.due("number(0, 0, 0)", p.book().number(0, 0, 0), SetBook.NOTHING);
+        Probe.due("member(0, 0, 0)", p.book().member(0, 0, 0), SetBook.NONE);
+        Probe.due("member(0, 0, 1)", p.book().member(0, 0, 1), 0);
+        Probe.due("member(0, 0, 2)", p.book().member(0, 0, 2), 0);
+        Probe.due("member(0, 0, 3)", p.book().member(0, 0, 3), 1);
+        Probe.due("printed(0)", p.book().printed(0), SetBook.NONE);
+        Probe.due("print()", p.book().print(), 0);
+        Probe.due("end(1)", p.book().end(1), SetBook.NONE);
         for (int k = 0; k < 6; k++) {
             p.set("#" + k, Probe.wrongAt(0));
         }
@@ -36,7 +36,7 @@ public final class NewObjectTest {
         Probe one = Probe.small();
         Probe two = new Probe();
         one.set("a", 1);
-        one.book.keep(0);
+        one.book().keep(0);
         two.counts(2, 1);
         two.counts(3, 0);
         two.counts(5, 0);
@@ -54,15 +54,15 @@ public final class NewObjectTest {
         p.set("a.kids*p.kids", 4);
         p.counts(3, 4);
         p.counts(4, 2);
-        p.book.keep(0);
-        p.book.keep(5);
+        p.book().keep(0);
+        p.book().keep(5);
         p.counts(5, 2);
-        p.book.keep(5);
+        p.book().keep(5);
         p.counts(5, 2);
-        p.book.drop(0);
+        p.book().drop(0);
         p.counts(5, 1);
         p.counts(6, 0);
-        p.book.print();
+        p.book().print();
         p.counts(6, 16);
         p.set("t.up", 0);
         p.counts(3, 0);

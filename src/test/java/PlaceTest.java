@@ -51,9 +51,7 @@ public final class PlaceTest {
         p.place("d.y", 3);
         p.place("a.x", SetBook.NONE);
         p.place("d.p", SetBook.NONE);
-        for (int i = 0; i + 1 < WRONGS.length; i += 2) {
-            p.place(WRONGS[i], Probe.wrongAt(Integer.parseInt(WRONGS[i + 1])));
-        }
+        Probe.wrongs(Probe::busy, Probe.Text.PLACE, WRONGS);
         p.set("p.kids*a.kids", 4);
         p.place("x.d", 1);
         p.place("c.x", Probe.wrongAt(0));

@@ -24,8 +24,7 @@ public final class SetTest {
     }
 
     private static void acts() {
-        Probe p = deep();
-        String[] due = {
+        Probe.makes(SetTest::deep,
             "r", "r", "g", "g", "p", "p",
             "r.kids", "a b c", "a.kids", "d e", "d.kids", "g", "g.kids", "",
             "r.all", "r a d g e b f c", "a.all", "a d g e", "g.all", "g", "p.all", "p x y",
@@ -35,11 +34,7 @@ public final class SetTest {
             "r.sibs", "r", "a.sibs", "a b c", "e.sibs", "d e", "g.sibs", "g", "x.sibs", "x y",
             "r.next", "", "a.next", "b", "b.next", "c", "c.next", "", "d.next", "e", "e.next", "",
             "r.back", "", "a.back", "", "b.back", "a", "c.back", "b", "e.back", "d", "f.back", "",
-            "r.deep", "r", "a.deep", "a b c", "d.deep", "d e f", "f.deep", "d e f", "g.deep", "g", "p.deep", "p",
-        };
-        for (int i = 0; i + 1 < due.length; i += 2) {
-            p.makes(due[i], due[i + 1]);
-        }
+            "r.deep", "r", "a.deep", "a b c", "d.deep", "d e f", "f.deep", "d e f", "g.deep", "g", "p.deep", "p");
     }
 
     private static void signs() {
@@ -81,9 +76,9 @@ public final class SetTest {
         p.tree("dim a\nmem a1 a\ndim b\nmem b1 b\ndim c\nmem c1 c\ndim d\nmem d1 d\nmar m\n", 8);
         p.makes("d.all*b*a.all*c1", "d.b.a.c1 d.b.a1.c1 d1.b.a.c1 d1.b.a1.c1");
         p.makes("{d.all*b}*{c*a.all}", "d.b.c.a d.b.c.a1 d1.b.c.a d1.b.c.a1");
-        Probe.due("tuple(2, 3)", p.book.tuple(2, 3), 1);
-        Probe.due("tuple(1, 0)", p.book.tuple(1, 0), 1);
-        Probe.due("tuple(1, 1)", p.book.tuple(1, 1), 0);
+        Probe.due("tuple(2, 3)", p.book().tuple(2, 3), 1);
+        Probe.due("tuple(1, 0)", p.book().tuple(1, 0), 1);
+        Probe.due("tuple(1, 1)", p.book().tuple(1, 1), 0);
     }
 
     private static void parts() {

@@ -8,9 +8,9 @@ public final class SheetTest {
     }
 
     private static void sheet(Probe p, String want) {
-        Probe.due("print()", p.book.print(), want.length());
+        Probe.due("print()", p.book().print(), want.length());
         Probe.due("the sheet", p.sheet(), want);
-        Probe.due("printed behind it", p.book.printed(want.length()), SetBook.NONE);
+        Probe.due("printed behind it", p.book().printed(want.length()), SetBook.NONE);
     }
 
     private static void prints() {
@@ -29,13 +29,13 @@ public final class SheetTest {
         Probe p = Probe.small();
         p.set("a", 1);
         p.counts(6, 0);
-        Probe.due("printed(0)", p.book.printed(0), SetBook.NONE);
+        Probe.due("printed(0)", p.book().printed(0), SetBook.NONE);
         sheet(p, "a\n");
         p.set("b*x", 1);
         Probe.due("the sheet", p.sheet(), "a\n");
         int[] off = {-1, 2, 3000, Integer.MIN_VALUE, Integer.MAX_VALUE};
         for (int i : off) {
-            Probe.due("printed(" + i + ")", p.book.printed(i), SetBook.NONE);
+            Probe.due("printed(" + i + ")", p.book().printed(i), SetBook.NONE);
         }
         sheet(p, "b.x\n");
         p.tree("dim t\nmar m\n", 1);
@@ -56,19 +56,19 @@ public final class SheetTest {
         Probe p = new Probe();
         p.tree(text + "dim c\nmar m\n", 34);
         p.set("a.kids*b.kids", 200);
-        p.book.keep(0);
-        Probe.due("print()", p.book.print(), 3000);
-        Probe.due("printed(2999)", p.book.printed(2999), 10);
-        Probe.due("printed(3000)", p.book.printed(3000), SetBook.NONE);
+        p.book().keep(0);
+        Probe.due("print()", p.book().print(), 3000);
+        Probe.due("printed(2999)", p.book().printed(2999), 10);
+        Probe.due("printed(3000)", p.book().printed(3000), SetBook.NONE);
         p.set("head(#0,1)", 1);
         sheet(p, "a0xyz.longna10\n");
         p.set("tail(#0,199)+sixsix*longna10", 200);
-        Probe.due("print()", p.book.print(), SetBook.FULL);
+        Probe.due("print()", p.book().print(), SetBook.FULL);
         Probe.due("the sheet stays", p.sheet(), "a0xyz.longna10\n");
         p.set("tail(#0,198)+sixsix*longna10", 199);
-        Probe.due("print()", p.book.print(), 2986);
+        Probe.due("print()", p.book().print(), 2986);
         p.set("#0*c", 200);
-        Probe.due("print()", p.book.print(), SetBook.FULL);
+        Probe.due("print()", p.book().print(), SetBook.FULL);
         p.counts(6, 2986);
     }
 }

@@ -36,7 +36,7 @@ public final class TreeTest {
 
     private static void member(Probe p, int d, int k, int... want) {
         for (int what = 0; what < 4; what++) {
-            Probe.due("member(" + d + ", " + k + ", " + what + ")", p.book.member(d, k, what), want[what]);
+            Probe.due("member(" + d + ", " + k + ", " + what + ")", p.book().member(d, k, what), want[what]);
         }
     }
 
@@ -93,9 +93,9 @@ public final class TreeTest {
     private static void anotherTree() {
         Probe p = Probe.marked();
         p.set("t.all", 5);
-        p.book.keep(0);
-        p.book.keep(5);
-        p.book.print();
+        p.book().keep(0);
+        p.book().keep(5);
+        p.book().print();
         p.tree("dim t\nmem q t\nmar m\n", 2);
         p.counts(0, 1);
         p.counts(1, 1);
@@ -104,31 +104,26 @@ public final class TreeTest {
         p.counts(5, 0);
         p.counts(6, 10);
         Probe.due("the sheet stays", p.sheet(), "t\na\nc\nd\nb\n");
-        Probe.due("number(0, 1, 0)", p.book.number(0, 1, 0), SetBook.NOTHING);
-        Probe.due("keep(0)", p.book.keep(0), SetBook.NONE);
+        Probe.due("number(0, 1, 0)", p.book().number(0, 1, 0), SetBook.NOTHING);
+        Probe.due("keep(0)", p.book().keep(0), SetBook.NONE);
         p.set("#0", Probe.wrongAt(0));
         p.set("#5", Probe.wrongAt(0));
         p.set("a", Probe.wrongAt(0));
         p.mark("q m 5", 1);
         p.tree("dim q\nmem t q\nmar m\n", 2);
-        Probe.due("number(0, 0, 0)", p.book.number(0, 0, 0), SetBook.NOTHING);
-        Probe.due("number(0, 1, 0)", p.book.number(0, 1, 0), SetBook.NOTHING);
+        Probe.due("number(0, 0, 0)", p.book().number(0, 0, 0), SetBook.NOTHING);
+        Probe.due("number(0, 1, 0)", p.book().number(0, 1, 0), SetBook.NOTHING);
         p.makes("q.all", "q t");
     }
 
     private static void wrongs() {
-        Probe p = new Probe();
-        for (int i = 0; i + 1 < TREE_WRONGS.length; i += 2) {
-            p.tree(TREE_WRONGS[i], Probe.wrongAt(Integer.parseInt(TREE_WRONGS[i + 1])));
-        }
-        p.counts(2, 1);
-        p.makes("t", "t");
+        Probe.wrongs(Probe::new, Probe.Text.TREE, TREE_WRONGS);
     }
 
     private static void wrongChangesNothing() {
         Probe p = Probe.marked();
         p.makes("a.kids", "c d");
-        p.book.keep(2);
+        p.book().keep(2);
         p.tree("dim q\nmem z q\nmar r\nmar q\n", Probe.wrongAt(24));
         p.counts(0, 2);
         p.counts(1, 2);
@@ -136,7 +131,7 @@ public final class TreeTest {
         p.counts(3, 2);
         p.counts(4, 1);
         p.counts(5, 1);
-        Probe.due("number(0, 1, 0)", p.book.number(0, 1, 0), 5);
+        Probe.due("number(0, 1, 0)", p.book().number(0, 1, 0), 5);
         p.makes("#2+t.kids", "c d a b");
         member(p, 0, 0, -1, 2, 0, 3);
     }
@@ -158,7 +153,7 @@ public final class TreeTest {
         }
         int[] whats = {-1, 4, Integer.MIN_VALUE, Integer.MAX_VALUE};
         for (int what : whats) {
-            Probe.due("member(0, 0, " + what + ")", p.book.member(0, 0, what), SetBook.NONE);
+            Probe.due("member(0, 0, " + what + ")", p.book().member(0, 0, what), SetBook.NONE);
         }
     }
 }
