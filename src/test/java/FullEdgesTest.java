@@ -62,6 +62,10 @@ public final class FullEdgesTest {
         Probe.sentence("with more, if only on the way, the text is FULL");
         sets(SetBook.FULL, "#0+a*b-a*b", "#0+a*b-#0", "#0+a*b&a*b", "#0^a*b^a*b", "a*b-a.all*b.all", "a*b&a.all*b.all",
                 "a.all*b.all*c.up", "c.all*d.all*a.up", "{c.all*d.all}-{c.all*d.all}", "#0-#0+a.all*b.all-a.all*b.all");
+        // what comes behind is read on, whatever is done with what was too much
+        sets(SetBook.FULL, "c.all*d.all+c*d", "c.all*d.all-c*d", "c.all*d.all&c*d", "c.all*d.all^c*d", "c*d^c.all*d.all",
+                "c*d+c.all*d.all", "{c.all*d.all}*a.kids", "a.kids*{c.all*d.all}", "tail({c.all*d.all},1)",
+                "turn({c.all*d.all})", "fall({c.all*d.all},m)", "top({c.all*d.all},1,m)", "tail({#0^a*b},1)*{c.all*d.all}");
     }
 
     private static void notOnTheWay() {
